@@ -29,6 +29,12 @@ public final class HeightTest {
         }
         Check.same("greatest(4) lags", plain.greatest(4), 8);
         Check.same("after telling heights", Snapshot.of(plain), before);
+
+        plain = Plains.of(8, 3, 9, 2);
+        plain.lower(0, 1, 5);
+        Check.same("greatest(1)", plain.greatest(1), 9);
+        Check.same("greatest(4)", plain.greatest(4), 8);
+        Check.same("the least stands between", plain.height(0), 5);
     }
 
     private static void throwsWithoutAColumn() {

@@ -4,6 +4,7 @@ public final class LowerTest {
         pressesOneEntryAlone();
         goesDownToTheSecondHeight();
         pressesAPart();
+        catchesUpOnTheWay();
         pressesNothing();
         pressesOneColumn();
         throwsInOrder();
@@ -58,6 +59,20 @@ public final class LowerTest {
         Check.same("height(5)", plain.height(5), 10);
     }
 
+    private static void catchesUpOnTheWay() {
+        PressedPlains plain = Plains.of(8, 3, 8, 2);
+        plain.lower(0, 3, 5);
+        Check.same("lower(0, 1, 4)", plain.lower(0, 1, 4), 1);
+        Check.same("visits", plain.visits(), 3);
+        Check.same("greatest(2)", plain.greatest(2), 4);
+        Check.same("greatest(3) caught up", plain.greatest(3), 5);
+        Check.same("noted(3) caught up", plain.noted(3), 7);
+        Check.same("greatest(1)", plain.greatest(1), 5);
+        Check.same("second(1)", plain.second(1), 4);
+        Check.same("noted(1)", plain.noted(1), 14);
+        Check.same("lagging", plain.lagging(), 2);
+    }
+
     private static void pressesNothing() {
         PressedPlains plain = Plains.of(8, 3, 8, 2);
         Check.same("lower(0, 3, 8)", plain.lower(0, 3, 8), 0);
@@ -66,6 +81,9 @@ public final class LowerTest {
         Check.same("lower(1, 1, 3)", plain.lower(1, 1, 3), 0);
         Check.same("visits of a part", plain.visits(), 5);
         Check.same("noted(1)", plain.noted(1), 21);
+        plain.layOut(4, 10);
+        Check.same("lower(0, 1, 10) of the flat", plain.lower(0, 1, 10), 0);
+        Check.same("visits of the flat", plain.visits(), 1);
     }
 
     private static void pressesOneColumn() {

@@ -86,5 +86,7 @@ public final class VisitsTest {
         Check.same("laid out again", plain.meanVisits(), 0.0);
         Check.same("visits", plain.visits(), 0);
         Check.same("allVisits", plain.allVisits(), 0);
+        plain.earth(0, 0);
+        Check.same("only the calls since then", plain.meanVisits(), 3.0);
     }
 }
