@@ -2,8 +2,25 @@
 final class Check {
     private static int calls = 0;
     private static int wrong = 0;
+    private static int sentences = 0;
+    private static String sentence = "";
+    private static int callsBefore = 0;
 
     private Check() {
+    }
+
+    /** Names the document's words that the answers from here on are looked at for. */
+    static void sentence(String words) {
+        closeSentence();
+        sentences++;
+        sentence = '"' + words + '"';
+        callsBefore = calls;
+    }
+
+    /** The same, with the one call or edge of several that the words are for. */
+    static void sentence(String words, String edge) {
+        sentence(words);
+        sentence += ", " + edge;
     }
 
     static void same(String what, long got, long due) {
@@ -53,12 +70,22 @@ final class Check {
         calls++;
         if (!right) {
             wrong++;
-            System.out.println(what + " answered " + got + ", due is " + due);
+            String place = sentence.isEmpty() ? "" : sentence + ": ";
+            System.out.println(place + what + " answered " + got + ", due is " + due);
+        }
+    }
+
+    private static void closeSentence() {
+        if (!sentence.isEmpty() && calls == callsBefore) {
+            wrong++;
+            System.out.println(sentence + ": no answer was looked at");
         }
     }
 
     static void end() {
-        System.out.println(calls + " answers looked at, " + wrong + " wrong");
+        closeSentence();
+        String edges = sentences == 0 ? "" : " for " + sentences + " edges";
+        System.out.println(calls + " answers" + edges + ", " + wrong + " wrong");
         if (wrong > 0 || calls == 0) {
             System.exit(1);
         }

@@ -4,7 +4,6 @@ public final class EarthTest {
         tellsEverySpan();
         catchesUpOnTheWay();
         countsTheColumnsWithoutTheBook();
-        throwsInOrder();
         Check.end();
     }
 
@@ -47,21 +46,5 @@ public final class EarthTest {
         String before = Snapshot.of(plain);
         Check.same("earthByColumns(1, 2)", plain.earthByColumns(1, 2), 8);
         Check.same("after asking the columns", Snapshot.of(plain), before);
-    }
-
-    private static void throwsInOrder() {
-        PressedPlains plain = Plains.of(8, 3, 8, 2);
-        plain.lower(0, 3, 5);
-        String before = Snapshot.of(plain);
-        int[] wrongColumns = {-1, 4, 64, Integer.MIN_VALUE, Integer.MAX_VALUE};
-        for (int column : wrongColumns) {
-            Check.outOfBounds("earth from " + column, () -> plain.earth(column, 1));
-            Check.outOfBounds("earth to " + column, () -> plain.earth(1, column));
-            Check.outOfBounds("columns from " + column, () -> plain.earthByColumns(column, 1));
-            Check.outOfBounds("columns to " + column, () -> plain.earthByColumns(1, column));
-        }
-        Check.illegalArgument("earth(2, 1)", () -> plain.earth(2, 1));
-        Check.illegalArgument("earthByColumns(2, 1)", () -> plain.earthByColumns(2, 1));
-        Check.same("after refusals", Snapshot.of(plain), before);
     }
 }

@@ -4,7 +4,6 @@ public final class EntryTest {
         tellsSpans();
         hasNoOtherEntries();
         tellsWhatIsNoted();
-        throwsWithoutAnEntry();
         Check.end();
     }
 
@@ -62,22 +61,5 @@ public final class EntryTest {
         Check.same("lags: greatest(2)", plain.greatest(2), 8);
         Check.same("lags: noted(2)", plain.noted(2), 21);
         Check.same("visits by looking", plain.visits(), 1);
-    }
-
-    private static void throwsWithoutAnEntry() {
-        PressedPlains plain = Plains.of(8, 3, 8, 2, 0, 0, 0);
-        String before = Snapshot.of(plain);
-        int[] wrongEntries = {0, -1, 14, 15, 16, 127, 128, Integer.MIN_VALUE, Integer.MAX_VALUE};
-        for (int entry : wrongEntries) {
-            Check.outOfBounds("spanOf(" + entry + ")", () -> plain.spanOf(entry));
-            Check.outOfBounds("greatest(" + entry + ")", () -> plain.greatest(entry));
-            Check.outOfBounds("second(" + entry + ")", () -> plain.second(entry));
-            Check.outOfBounds("many(" + entry + ")", () -> plain.many(entry));
-            Check.outOfBounds("noted(" + entry + ")", () -> plain.noted(entry));
-        }
-        Check.same("after refusals", Snapshot.of(plain), before);
-        plain.layOut(64, 0);
-        plain.layOut(2, 0);
-        Check.outOfBounds("an entry of the plain before", () -> plain.greatest(4));
     }
 }

@@ -3,7 +3,6 @@ public final class HeightTest {
     public static void main(String[] args) {
         tellsEveryColumn();
         isRightWhileEntriesLag();
-        throwsWithoutAColumn();
         Check.end();
     }
 
@@ -35,16 +34,5 @@ public final class HeightTest {
         Check.same("greatest(1)", plain.greatest(1), 9);
         Check.same("greatest(4)", plain.greatest(4), 8);
         Check.same("the least stands between", plain.height(0), 5);
-    }
-
-    private static void throwsWithoutAColumn() {
-        PressedPlains plain = Plains.of(8, 3, 8, 2);
-        String before = Snapshot.of(plain);
-        int[] wrongColumns = {-1, 4, 64, Integer.MIN_VALUE, Integer.MAX_VALUE};
-        for (int column : wrongColumns) {
-            Check.outOfBounds("height(" + column + ")", () -> plain.height(column));
-            Check.outOfBounds("kept at " + column, () -> plain.heightOfColumn(column));
-        }
-        Check.same("after refusals", Snapshot.of(plain), before);
     }
 }

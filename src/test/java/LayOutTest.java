@@ -4,7 +4,6 @@ public final class LayOutTest {
         answersAndEdges();
         laysOutEveryWidth();
         forgetsWhatWas();
-        refusesWrongNumbers();
         Check.end();
     }
 
@@ -49,21 +48,5 @@ public final class LayOutTest {
         plain.layOut(64, 1000);
         plain.layOut(1, 0);
         Check.same("narrow again", Snapshot.of(plain), Snapshot.of(new PressedPlains()));
-    }
-
-    private static void refusesWrongNumbers() {
-        PressedPlains plain = Plains.of(5, 0, 9);
-        plain.lower(0, 2, 6);
-        String before = Snapshot.of(plain);
-        int[] wrongColumns = {0, 65, -1, Integer.MIN_VALUE, Integer.MAX_VALUE};
-        for (int columns : wrongColumns) {
-            Check.illegalArgument("layOut(" + columns + ", 5)", () -> plain.layOut(columns, 5));
-        }
-        int[] wrongHeights = {-1, 1001, Integer.MIN_VALUE, Integer.MAX_VALUE};
-        for (int height : wrongHeights) {
-            Check.illegalArgument("layOut(5, " + height + ")", () -> plain.layOut(5, height));
-        }
-        Check.same("after refusals", Snapshot.of(plain), before);
-        Check.same("columns after refusals", plain.columns(), 3);
     }
 }

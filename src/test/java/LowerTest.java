@@ -7,7 +7,6 @@ public final class LowerTest {
         catchesUpOnTheWay();
         pressesNothing();
         pressesOneColumn();
-        throwsInOrder();
         Check.end();
     }
 
@@ -96,23 +95,5 @@ public final class LowerTest {
         single.pile(0, 9);
         Check.same("lower(0, 0, 0)", single.lower(0, 0, 0), 9);
         Check.same("lower(0, 0, 0) again", single.lower(0, 0, 0), 0);
-    }
-
-    private static void throwsInOrder() {
-        PressedPlains plain = Plains.of(8, 3, 8, 2);
-        plain.lower(0, 3, 5);
-        String before = Snapshot.of(plain);
-        int[] wrongColumns = {-1, 4, 64, Integer.MIN_VALUE, Integer.MAX_VALUE};
-        for (int column : wrongColumns) {
-            Check.outOfBounds("lower(" + column + ", 3, 4)", () -> plain.lower(column, 3, 4));
-            Check.outOfBounds("lower(0, " + column + ", 4)", () -> plain.lower(0, column, 4));
-            Check.outOfBounds("lower(3, " + column + ", -1)", () -> plain.lower(3, column, -1));
-        }
-        Check.illegalArgument("lower(2, 1, 4)", () -> plain.lower(2, 1, 4));
-        int[] wrongCeilings = {-1, 1001, Integer.MIN_VALUE, Integer.MAX_VALUE};
-        for (int ceiling : wrongCeilings) {
-            Check.illegalArgument("lower(0, 3, " + ceiling + ")", () -> plain.lower(0, 3, ceiling));
-        }
-        Check.same("after refusals", Snapshot.of(plain), before);
     }
 }

@@ -4,8 +4,6 @@ public final class PileTest {
         answers();
         tellsEntriesAnew();
         catchesUpOnTheWay();
-        reachesTheGreatestHeight();
-        throwsInOrder();
         Check.end();
     }
 
@@ -53,32 +51,5 @@ public final class PileTest {
         Check.same("noted(1)", plain.noted(1), 16);
         Check.same("pile(0, 1) on a pressed column", plain.pile(0, 1), 6);
         Check.same("height(0)", plain.height(0), 6);
-    }
-
-    private static void reachesTheGreatestHeight() {
-        PressedPlains plain = new PressedPlains();
-        Check.same("pile(0, 1000)", plain.pile(0, 1000), 1000);
-        Check.illegalState("pile(0, 1)", () -> plain.pile(0, 1));
-        Check.illegalState("pile(0, 1000)", () -> plain.pile(0, 1000));
-        plain.lower(0, 0, 999);
-        Check.illegalState("pile(0, 2)", () -> plain.pile(0, 2));
-        Check.same("pile(0, 1)", plain.pile(0, 1), 1000);
-    }
-
-    private static void throwsInOrder() {
-        PressedPlains plain = Plains.of(1000, 4, 0);
-        plain.lower(1, 2, 2);
-        String before = Snapshot.of(plain);
-        int[] wrongColumns = {-1, 3, 64, Integer.MIN_VALUE, Integer.MAX_VALUE};
-        for (int column : wrongColumns) {
-            Check.outOfBounds("pile(" + column + ", 1)", () -> plain.pile(column, 1));
-            Check.outOfBounds("pile(" + column + ", 0)", () -> plain.pile(column, 0));
-        }
-        int[] wrongEarth = {0, -1, 1001, Integer.MIN_VALUE, Integer.MAX_VALUE};
-        for (int earth : wrongEarth) {
-            Check.illegalArgument("pile(0, " + earth + ")", () -> plain.pile(0, earth));
-        }
-        Check.illegalState("pile(0, 1)", () -> plain.pile(0, 1));
-        Check.same("after refusals", Snapshot.of(plain), before);
     }
 }

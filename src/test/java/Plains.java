@@ -14,4 +14,17 @@ final class Plains {
         }
         return plain;
     }
+
+    static PressedPlains flat(int columns, int height) {
+        PressedPlains plain = new PressedPlains();
+        plain.layOut(columns, height);
+        return plain;
+    }
+
+    /** 5 3 5 2, where the entries 2 and 3 lag, so that coming to entry 1 would show. */
+    static PressedPlains lagging() {
+        PressedPlains plain = of(8, 3, 8, 2);
+        plain.lower(0, 3, 5);
+        return plain;
+    }
 }

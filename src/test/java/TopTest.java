@@ -3,7 +3,6 @@ public final class TopTest {
     public static void main(String[] args) {
         tellsEverySpan();
         catchesUpOnTheWay();
-        throwsInOrder();
         Check.end();
     }
 
@@ -36,18 +35,5 @@ public final class TopTest {
         Check.same("lagging after two parts", plain.lagging(), 0);
         Check.same("top(3, 3)", plain.top(3, 3), 2);
         Check.same("visits of a column", plain.visits(), 5);
-    }
-
-    private static void throwsInOrder() {
-        PressedPlains plain = Plains.of(8, 3, 8, 2);
-        plain.lower(0, 3, 5);
-        String before = Snapshot.of(plain);
-        int[] wrongColumns = {-1, 4, 64, Integer.MIN_VALUE, Integer.MAX_VALUE};
-        for (int column : wrongColumns) {
-            Check.outOfBounds("top from " + column, () -> plain.top(column, 1));
-            Check.outOfBounds("top to " + column, () -> plain.top(1, column));
-        }
-        Check.illegalArgument("top(2, 1)", () -> plain.top(2, 1));
-        Check.same("after refusals", Snapshot.of(plain), before);
     }
 }
